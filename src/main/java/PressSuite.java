@@ -476,7 +476,6 @@ public final class PressSuite {
             this.source = source;
             this.draft = draft;
             history = new History(past, draft);
-            refusedAt = NOWHERE;
         }
 
         abstract void readAll();

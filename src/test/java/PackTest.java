@@ -20,6 +20,7 @@ public final class PackTest {
         placesInsideAMatchAreNotInTheTable();
         sameHashIsNoMatch();
         packReplacesThePackedRowAlone();
+        packsOneAfterAnother();
         foundIsOfTheLatestPack();
         everythingIsReadAgain();
         Check.finish();
@@ -249,6 +250,26 @@ public final class PackTest {
             Check.holds("the past after pack", x, Check.PAST, past);
             Check.holds("the plain row after pack", x, Check.PLAIN, plain);
         }
+    }
+
+    private static void packsOneAfterAnother() {
+        PressSuite x = new PressSuite();
+        int[] five = Check.repeat(A, 5);
+        int[] format0 = Check.join(Check.bytes(0x13, A, 1, 0, 0x50), five);
+        int[] format1 = Check.join(Check.bytes(13, 0, A, 13, 1, 16), five);
+        Check.fill(x, Check.PLAIN, Check.repeat(A, 13));
+        for (int turn = 0; turn < 3; turn++) {
+            x.pack(0);
+            Check.holds("format 0, turn " + turn, x, Check.PACKED, format0);
+            x.pack(1);
+            Check.holds("format 1, turn " + turn, x, Check.PACKED, format1);
+            Check.same("matches, turn " + turn, x.found(0), 1);
+            Check.same("copied, turn " + turn, x.found(1), 7);
+        }
+        int[] other = Check.join(Check.repeat(A, 4), Check.rising(0, 8));
+        Check.fill(x, Check.PLAIN, other);
+        x.pack(0);
+        Check.holds("nothing is known of an earlier plain row", x, Check.PACKED, Check.join(Check.bytes(0xC0), other));
     }
 
     private static void foundIsOfTheLatestPack() {

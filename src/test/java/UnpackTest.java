@@ -12,6 +12,7 @@ public final class UnpackTest {
         malformedFormat1();
         orderOfFormat1();
         onlyThePlainRowChanges();
+        readsAfterRefusals();
         Check.finish();
     }
 
@@ -156,6 +157,24 @@ public final class UnpackTest {
         malformed("a short distance goes before too many", 1, NO_PAST, 3, 1, 0, 9, 1, 0);
         malformed("a long distance goes before too many", 1, NO_PAST, 4, 1, 0, 9, 14, 0, 0);
         malformed("61 goes before too many", 1, NO_PAST, 1, 0, 244);
+    }
+
+    private static void readsAfterRefusals() {
+        PressSuite x = new PressSuite();
+        for (int turn = 0; turn < 2; turn++) {
+            x.empty(Check.PACKED);
+            Check.same("no row, format 0", x.unpack(0), -1);
+            Check.same("no row, format 1", x.unpack(1), -1);
+            Check.fill(x, Check.PACKED, 0x30, 1, 2);
+            Check.same("no third literal", x.unpack(0), -4);
+            Check.fill(x, Check.PACKED, 0x20, 1, 2);
+            Check.same("two literals, format 0", x.unpack(0), 2);
+            Check.fill(x, Check.PACKED, 3, 4, 7, 8);
+            Check.same("fewer than the size", x.unpack(1), -5);
+            Check.fill(x, Check.PACKED, 2, 4, 7, 8);
+            Check.same("two literals, format 1", x.unpack(1), 2);
+            Check.holds("read after refusals", x, Check.PLAIN, 7, 8);
+        }
     }
 
     private static void onlyThePlainRowChanges() {
