@@ -1,11 +1,19 @@
+import java.util.Arrays;
+
 /** What the tests share: counts wrong answers, prints them, and ends the program with 1 if there was one. */
 final class Check {
     static final int PLAIN = 0;
     static final int PACKED = 1;
     static final int PAST = 2;
+    static final int[] LIMITS = {160, 200, 64};
+    static final int[] NOT_0_TO_1 = {-1, 2, 3, Integer.MIN_VALUE, Integer.MAX_VALUE};
+    static final int[] NOT_0_TO_2 = {-1, 3, 4, Integer.MIN_VALUE, Integer.MAX_VALUE};
 
     private static int wrong = 0;
     private static int checked = 0;
+    private static int sentences = 0;
+    private static String sentence = "";
+    private static int checkedBefore = -1;
 
     /** One call of the face. */
     interface Call {
@@ -15,33 +23,30 @@ final class Check {
     private Check() {
     }
 
+    /** The checks from here on are those of this sentence of the document; a wrong answer is told with it. */
+    static void sentence(String words) {
+        endSentence();
+        sentences++;
+        sentence = "[" + words + "] ";
+        checkedBefore = checked;
+    }
+
+    // A sentence under which nothing is checked would look tested and not be.
+    private static void endSentence() {
+        if (checked == checkedBefore) {
+            tell("nothing is checked");
+        }
+    }
+
+    private static void tell(String fault) {
+        wrong++;
+        System.out.println(sentence + fault);
+    }
+
     static void same(String what, long got, long due) {
         checked++;
         if (got != due) {
-            wrong++;
-            System.out.println(what + " answered " + got + ", due is " + due);
-        }
-    }
-
-    static void refusesArgument(String what, Call call) {
-        throwsExactly(what, IllegalArgumentException.class, call);
-    }
-
-    static void refusesState(String what, Call call) {
-        throwsExactly(what, IllegalStateException.class, call);
-    }
-
-    private static void throwsExactly(String what, Class<?> due, Call call) {
-        checked++;
-        Class<?> got = null;
-        try {
-            call.run();
-        } catch (RuntimeException e) {
-            got = e.getClass();
-        }
-        if (got != due) {
-            wrong++;
-            System.out.println(what + " threw " + got + ", due is " + due);
+            tell(what + " answered " + got + ", due is " + due);
         }
     }
 
@@ -49,7 +54,61 @@ final class Check {
         same(what, holds ? 1 : 0, 1);
     }
 
-    static void fill(PressSuite x, int row, int... bytes) {
+    /** The call throws IllegalArgumentException and leaves the object as it was. */
+    static void refusesArgument(String what, Counted x, Call call) {
+        refuses(what, IllegalArgumentException.class, x, call);
+    }
+
+    /** The call throws IllegalStateException and leaves the object as it was. */
+    static void refusesState(String what, Counted x, Call call) {
+        refuses(what, IllegalStateException.class, x, call);
+    }
+
+    private static void refuses(String what, Class<?> due, Counted x, Call call) {
+        String before = whole(x);
+        throwsExactly(what, due, call);
+        unchanged(what, before, x);
+    }
+
+    static void throwsExactly(String what, Class<?> due, Call call) {
+        Class<?> got = null;
+        try {
+            call.run();
+        } catch (RuntimeException e) {
+            got = e.getClass();
+        }
+        checked++;
+        if (got != due) {
+            tell(what + " threw " + got + ", due is " + due);
+        }
+    }
+
+    /** What an object holds; by sums, which take fewer calls than the bytes. */
+    static String whole(Counted x) {
+        StringBuilder out = new StringBuilder();
+        for (int row = 0; row < 3; row++) {
+            out.append(x.size(row)).append(" bytes of sum ").append(x.crc(row)).append(", ");
+        }
+        return out.append(x.found(0)).append(" matches of ").append(x.found(1)).toString();
+    }
+
+    static void unchanged(String what, String before, Counted x) {
+        String after = whole(x);
+        checked++;
+        if (!after.equals(before)) {
+            tell(what + " left " + after + ", before it was " + before);
+        }
+    }
+
+    static int[] held(Counted x, int row) {
+        int[] out = new int[x.size(row)];
+        for (int k = 0; k < out.length; k++) {
+            out[k] = x.get(row, k);
+        }
+        return out;
+    }
+
+    static void fill(Counted x, int row, int... bytes) {
         x.empty(row);
         for (int from = 0; from < bytes.length; from += 8) {
             int n = Math.min(8, bytes.length - from);
@@ -61,7 +120,7 @@ final class Check {
         }
     }
 
-    static void holds(String what, PressSuite x, int row, int... bytes) {
+    static void holds(String what, Counted x, int row, int... bytes) {
         int size = x.size(row);
         same(what + ", size of row " + row, size, bytes.length);
         for (int k = 0; k < bytes.length && k < size; k++) {
@@ -75,7 +134,7 @@ final class Check {
 
     static int[] repeat(int b, int times) {
         int[] out = new int[times];
-        java.util.Arrays.fill(out, b);
+        Arrays.fill(out, b);
         return out;
     }
 
@@ -89,7 +148,7 @@ final class Check {
     }
 
     static int[] join(int[]... parts) {
-        return java.util.Arrays.stream(parts).flatMapToInt(java.util.Arrays::stream).toArray();
+        return Arrays.stream(parts).flatMapToInt(Arrays::stream).toArray();
     }
 
     static int[] bytes(int... b) {
@@ -97,7 +156,9 @@ final class Check {
     }
 
     static void finish() {
-        System.out.println(checked + " checks, " + wrong + " wrong");
+        endSentence();
+        String of = sentences == 0 ? "" : " of " + sentences + " sentences";
+        System.out.println(checked + " checks" + of + ", " + wrong + " wrong");
         if (wrong != 0 || checked == 0) {
             System.exit(1);
         }

@@ -33,14 +33,6 @@ public final class ModelTest {
         return list.stream().mapToInt(Integer::intValue).toArray();
     }
 
-    private static int[] held(PressSuite x, int row) {
-        int[] out = new int[x.size(row)];
-        for (int k = 0; k < out.length; k++) {
-            out[k] = x.get(row, k);
-        }
-        return out;
-    }
-
     private static void packAndReadAgain(int run, Random random) {
         int[] past = row(random, 64);
         int[] plain = row(random, 160);
@@ -50,7 +42,7 @@ public final class ModelTest {
             }
         }
         int format = random.nextInt(2);
-        PressSuite x = new PressSuite();
+        Counted x = new Counted();
         Check.fill(x, Check.PAST, past);
         Check.fill(x, Check.PLAIN, plain);
         Model.Packed due = Model.pack(format, past, plain);
@@ -58,10 +50,10 @@ public final class ModelTest {
         Check.same(what + ", pack", x.pack(format), due.bytes.size());
         Check.same(what + ", found(0)", x.found(0), due.matches);
         Check.same(what + ", found(1)", x.found(1), due.copied);
-        Check.isTrue(what + ", packed bytes", Arrays.equals(held(x, Check.PACKED), ints(due.bytes)));
+        Check.isTrue(what + ", packed bytes", Arrays.equals(Check.held(x, Check.PACKED), ints(due.bytes)));
         x.empty(Check.PLAIN);
         Check.same(what + ", unpack", x.unpack(format), plain.length);
-        Check.isTrue(what + ", read again", Arrays.equals(held(x, Check.PLAIN), plain));
+        Check.isTrue(what + ", read again", Arrays.equals(Check.held(x, Check.PLAIN), plain));
     }
 
     private static void readSpoilt(int run, Random random) {
@@ -90,7 +82,7 @@ public final class ModelTest {
     }
 
     private static void read(String what, int format, int[] past, int[] packed) {
-        PressSuite x = new PressSuite();
+        Counted x = new Counted();
         Check.fill(x, Check.PAST, past);
         Check.fill(x, Check.PACKED, packed);
         Check.fill(x, Check.PLAIN, 1, 2, 3);
@@ -98,8 +90,8 @@ public final class ModelTest {
         int due = Model.unpack(format, past, packed, plain);
         Check.same(what + ", unpack", x.unpack(format), due);
         int[] left = due < 0 ? Check.bytes(1, 2, 3) : ints(plain);
-        Check.isTrue(what + ", plain row", Arrays.equals(held(x, Check.PLAIN), left));
-        Check.isTrue(what + ", packed row", Arrays.equals(held(x, Check.PACKED), packed));
-        Check.isTrue(what + ", past", Arrays.equals(held(x, Check.PAST), past));
+        Check.isTrue(what + ", plain row", Arrays.equals(Check.held(x, Check.PLAIN), left));
+        Check.isTrue(what + ", packed row", Arrays.equals(Check.held(x, Check.PACKED), packed));
+        Check.isTrue(what + ", past", Arrays.equals(Check.held(x, Check.PAST), past));
     }
 }

@@ -6,10 +6,8 @@ import java.util.zip.CRC32C;
 /** All promises in runs of 512 mixed calls on one object; a twin of lists says what is due. */
 public final class RunsTest {
     private static final int RUNS = 1500;
-    private static final int CALLS = 512;
-    private static final int[] LIMITS = {160, 200, 64};
 
-    private final PressSuite x = new PressSuite();
+    private final Counted x = new Counted();
     private final List<List<Integer>> rows = List.of(new ArrayList<>(), new ArrayList<>(), new ArrayList<>());
     private final Random random;
     private final String name;
@@ -24,7 +22,7 @@ public final class RunsTest {
     public static void main(String[] args) {
         for (int run = 0; run < RUNS; run++) {
             RunsTest test = new RunsTest(run);
-            for (int call = 0; call < CALLS; call++) {
+            for (int call = 0; call < Counted.MOST_CALLS; call++) {
                 test.call();
             }
         }
@@ -64,7 +62,7 @@ public final class RunsTest {
         if (row >= 0 && row <= 2) {
             return false;
         }
-        Check.refusesArgument(name + "row " + row, call);
+        Check.throwsExactly(name + "row " + row, IllegalArgumentException.class, call);
         return true;
     }
 
@@ -75,9 +73,9 @@ public final class RunsTest {
             return;
         }
         if (n < 1 || n > 8) {
-            Check.refusesArgument(name + "put of " + n, () -> x.put(row, v, n));
-        } else if (rows.get(row).size() + n > LIMITS[row]) {
-            Check.refusesState(name + "put without room", () -> x.put(row, v, n));
+            Check.throwsExactly(name + "put of " + n, IllegalArgumentException.class, () -> x.put(row, v, n));
+        } else if (rows.get(row).size() + n > Check.LIMITS[row]) {
+            Check.throwsExactly(name + "put without room", IllegalStateException.class, () -> x.put(row, v, n));
         } else {
             x.put(row, v, n);
             for (int i = 0; i < n; i++) {
@@ -88,7 +86,7 @@ public final class RunsTest {
 
     private void pack(int format) {
         if (format < 0 || format > 1) {
-            Check.refusesArgument(name + "pack " + format, () -> x.pack(format));
+            Check.throwsExactly(name + "pack " + format, IllegalArgumentException.class, () -> x.pack(format));
             return;
         }
         Model.Packed due = Model.pack(format, row(2), row(0));
@@ -100,7 +98,7 @@ public final class RunsTest {
 
     private void unpack(int format) {
         if (format < 0 || format > 1) {
-            Check.refusesArgument(name + "unpack " + format, () -> x.unpack(format));
+            Check.throwsExactly(name + "unpack " + format, IllegalArgumentException.class, () -> x.unpack(format));
             return;
         }
         List<Integer> plain = new ArrayList<>();
@@ -135,7 +133,7 @@ public final class RunsTest {
             return;
         }
         if (k < 0 || k >= rows.get(row).size()) {
-            Check.refusesState(name + "get " + k, () -> x.get(row, k));
+            Check.throwsExactly(name + "get " + k, IllegalStateException.class, () -> x.get(row, k));
         } else {
             Check.same(name + "get " + k, x.get(row, k), rows.get(row).get(k));
         }
@@ -143,7 +141,7 @@ public final class RunsTest {
 
     private void found(int what) {
         if (what < 0 || what > 1) {
-            Check.refusesArgument(name + "found " + what, () -> x.found(what));
+            Check.throwsExactly(name + "found " + what, IllegalArgumentException.class, () -> x.found(what));
         } else {
             Check.same(name + "found " + what, x.found(what), what == 0 ? matches : copied);
         }
