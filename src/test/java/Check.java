@@ -13,9 +13,8 @@ final class Check {
     private static int checked = 0;
     private static int sentences = 0;
     private static String sentence = "";
-    private static int checkedBefore = -1;
 
-    /** One call of the face. */
+    /** One call of the face, or one test. */
     interface Call {
         void run();
     }
@@ -23,18 +22,27 @@ final class Check {
     private Check() {
     }
 
-    /** The checks from here on are those of this sentence of the document; a wrong answer is told with it. */
+    /** The checks of the test that is run are those of this sentence of the document; a wrong answer is told with it. */
     static void sentence(String words) {
-        endSentence();
-        sentences++;
         sentence = "[" + words + "] ";
-        checkedBefore = checked;
     }
 
-    // A sentence under which nothing is checked would look tested and not be.
-    private static void endSentence() {
-        if (checked == checkedBefore) {
-            tell("nothing is checked");
+    /** Runs tests of one sentence each; what a test did not expect to be thrown ends that test alone. */
+    static void run(Call... tests) {
+        for (Call test : tests) {
+            int before = checked;
+            sentence = "[a test without its sentence] ";
+            sentences++;
+            try {
+                test.run();
+            } catch (RuntimeException | AssertionError e) {
+                tell("was ended by " + e);
+                continue;
+            }
+            // A sentence under which nothing is checked would look tested and not be.
+            if (checked == before) {
+                tell("nothing is checked");
+            }
         }
     }
 
@@ -156,7 +164,6 @@ final class Check {
     }
 
     static void finish() {
-        endSentence();
         String of = sentences == 0 ? "" : " of " + sentences + " sentences";
         System.out.println(checked + " checks" + of + ", " + wrong + " wrong");
         if (wrong != 0 || checked == 0) {

@@ -5,34 +5,35 @@ public final class PackTest {
     private static final int[] ABCD = Check.text("abcd");
 
     public static void main(String[] args) {
-        packedBecomes();
-        everythingIsReadAgain();
-        packWrongFormat();
-        foundIsOfTheLatestPack();
-        foundBefore();
-        foundAfterRefusals();
-        foundOfAnotherWhat();
-        lowestFirst();
-        literalSums0();
-        matchSums0();
-        size1();
-        tableOf32();
-        noneAtFirst();
-        hashOfAPlace();
-        fourBytesInThePast();
-        pastFrom0On();
-        plainFrom0On();
-        atLeast12Bytes();
-        becomesThisPlace();
-        fourTheSame();
-        oneByOne();
-        notIntoTheLast5();
-        behindTheMatch();
-        lastLiterals();
-        literals1();
-        upTo11();
-        longMatches1();
-        distances1();
+        Check.run(
+            PackTest::packedBecomes,
+            PackTest::everythingIsReadAgain,
+            PackTest::packWrongFormat,
+            PackTest::foundIsOfTheLatestPack,
+            PackTest::foundBefore,
+            PackTest::foundAfterRefusals,
+            PackTest::foundOfAnotherWhat,
+            PackTest::lowestFirst,
+            PackTest::literalSums0,
+            PackTest::matchSums0,
+            PackTest::size1,
+            PackTest::tableOf32,
+            PackTest::noneAtFirst,
+            PackTest::hashOfAPlace,
+            PackTest::fourBytesInThePast,
+            PackTest::pastFrom0On,
+            PackTest::plainFrom0On,
+            PackTest::atLeast12Bytes,
+            PackTest::becomesThisPlace,
+            PackTest::fourTheSame,
+            PackTest::oneByOne,
+            PackTest::notIntoTheLast5,
+            PackTest::behindTheMatch,
+            PackTest::lastLiterals,
+            PackTest::literals1,
+            PackTest::upTo11,
+            PackTest::longMatches1,
+            PackTest::distances1);
         Check.finish();
     }
 
@@ -139,15 +140,14 @@ public final class PackTest {
             Check.same("no match", x.found(0), 0);
             Check.same("no bytes", x.found(1), 0);
         }
-        Counted most = with(NONE, Check.repeat(A, 12));
-        int[] plain = NONE;
+        int[] runs = NONE;
         for (int b = 0; b < 15; b++) {
-            plain = Check.join(plain, Check.repeat(b, 10));
+            runs = Check.join(runs, Check.repeat(b, 10));
         }
-        Check.fill(most, Check.PLAIN, plain);
-        most.pack(0);
-        Check.same("many matches", most.found(0), 14);
-        Check.same("bytes of many", most.found(1), 14 * 9);
+        Counted many = with(NONE, runs);
+        many.pack(0);
+        Check.same("a match in each run but the last", many.found(0), 14);
+        Check.same("their bytes", many.found(1), 14 * 9);
     }
 
     private static void foundBefore() {
@@ -268,6 +268,17 @@ public final class PackTest {
         Check.sentence("Terms, TO PACK: all none at first");
         noMatch("twelve the same, no past", NONE, Check.repeat(A, 12));
         noMatch("twelve zeros, no past", NONE, Check.repeat(0, 12));
+        // These fours come to every slot, so that each one is seen to be none.
+        for (int b = 0; b < 256; b++) {
+            int[] four = Check.bytes(b, 'b', 'c', 'd');
+            int[] plain = Check.join(four, Check.rising(b + 1, 8));
+            noMatch("four from " + b, NONE, plain);
+            Counted x = with(four, plain);
+            x.pack(0);
+            x.empty(Check.PAST);
+            x.pack(0);
+            Check.same("four from " + b + " in a past that was", x.found(0), 0);
+        }
         for (int format = 0; format < 2; format++) {
             Counted x = with(ABCD, Check.join(ABCD, Check.rising(0, 8)));
             x.pack(format);
@@ -293,6 +304,12 @@ public final class PackTest {
         noMatch("taken by another", four, Check.join(Check.bytes(151, 200, 210, 220, 1), four, last));
         due("not taken", four, Check.join(Check.bytes(131, 200, 210, 220, 1), four, last), 0,
             Check.join(Check.bytes(0x50, 131, 200, 210, 220, 1, 9, 0, 0x80), last), 1, 4);
+        // The product of 0 0 0 8 has nothing but 0 below the slot, 17; 18 'bcd' has slot 17 too. A factor of the other
+        // sign turns the slots round, but for this four it does so by one place less: then they would be apart.
+        int[] alone = {0, 0, 0, 8};
+        noMatch("taken by another, the factor's sign", alone, Check.join(Check.bytes(18, 'b', 'c', 'd', 1), alone, last));
+        due("not taken, the factor's sign", alone, Check.join(ABCD, Check.bytes(1), alone, last), 0,
+            Check.join(Check.bytes(0x50), ABCD, Check.bytes(1, 9, 0, 0x80), last), 1, 4);
         due("255 four times", Check.repeat(255, 4), Check.join(Check.repeat(255, 4), Check.rising(0, 8)), 0,
             Check.join(Check.bytes(0x00, 4, 0, 0x80), Check.rising(0, 8)), 1, 4);
         due("128 last", Check.bytes(0, 0, 0, 128), Check.join(Check.bytes(0, 0, 0, 128), Check.rising(1, 8)), 0,
@@ -439,6 +456,20 @@ public final class PackTest {
         int[] inside = Check.join(Check.text("mnopq"), Check.bytes(1), Check.text("nopq"), Check.rising(50, 12));
         due("places inside a match are not in the table", Check.text("mnopq"), inside, 0,
             Check.join(Check.bytes(0x01, 5, 0, 0x10, 1, 10, 0, 0xC0), Check.rising(50, 12)), 2, 9);
+        // The same with the last, the last but one and the last but two place of a match.
+        insideAMatch("oxks", "mvgnaqho", "xks");
+        insideAMatch("utzb", "xhsdkaut", "zb");
+        insideAMatch("pout", "escidpou", "t");
+    }
+
+    private static void insideAMatch(String four, String word, String next) {
+        int[] past = Check.join(Check.text(four), Check.text(word));
+        int[] last = Check.rising(50, 12);
+        int[] rest = Check.join(Check.text(next), Check.bytes(1));
+        int[] plain = Check.join(Check.text(word), rest, Check.text(four), last);
+        int back = past.length + plain.length - 16;
+        due("'" + four + "' begins inside the match", past, plain, 0, Check.join(Check.bytes(0x04, 8, 0, rest.length << 4),
+            rest, Check.bytes(back, 0, 0xC0), last), 2, 12);
     }
 
     private static void lastLiterals() {
@@ -518,5 +549,9 @@ public final class PackTest {
             Check.bytes(0x0F, 4, 0, 148 - 19, 0x00, 212, 0, 0x80), Check.rising(100, 8)), 2, 152);
         due("212 back, format 1", past, plain, 1, Check.join(
             Check.bytes(160, 1, 254, 4, 0, 254, 4, 0, 78, 4, 0, 1, 212, 28), Check.rising(100, 8)), 2, 152);
+        int[] word = Check.text("quickbrownfx");
+        due("207 back as kind 2", Check.join(word, Check.repeat(0, 52)),
+            Check.join(Check.repeat(0, 143), word, Check.rising(1, 5)), 1, Check.join(
+            Check.bytes(160, 1, 254, 4, 0, 254, 4, 0, 58, 4, 0, 46, 207, 0, 16), Check.rising(1, 5)), 2, 155);
     }
 }

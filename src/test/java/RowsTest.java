@@ -1,24 +1,27 @@
 /** Promises 1 (a new object), 2 (put), 3 (empty), 6 (size) and 7 (get), and what 'Terms' says of the rows. */
 public final class RowsTest {
     public static void main(String[] args) {
-        lastCall();
-        rowLimits();
-        lowestFirst();
-        placesCountFrom0();
-        newObject();
-        putLowestBytes();
-        putBehind();
-        putNoSuchRow();
-        putWrongCount();
-        putNoRoom();
-        putTwoFaults();
-        emptyTellsHowMany();
-        emptyNoSuchRow();
-        sizeTellsHowMany();
-        sizeNoSuchRow();
-        getIs0To255();
-        getNoSuchRow();
-        getNoSuchByte();
+        Check.run(
+            RowsTest::lastCall,
+            () -> rowLimit(0, "PLAIN, at most 160"),
+            () -> rowLimit(1, "PACKED, at most 200"),
+            () -> rowLimit(2, "the PAST, at most 64"),
+            RowsTest::lowestFirst,
+            RowsTest::placesCountFrom0,
+            RowsTest::newObject,
+            RowsTest::putLowestBytes,
+            RowsTest::putBehind,
+            RowsTest::putNoSuchRow,
+            RowsTest::putWrongCount,
+            RowsTest::putNoRoom,
+            RowsTest::putTwoFaults,
+            RowsTest::emptyTellsHowMany,
+            RowsTest::emptyNoSuchRow,
+            RowsTest::sizeTellsHowMany,
+            RowsTest::sizeNoSuchRow,
+            RowsTest::getIs0To255,
+            RowsTest::getNoSuchRow,
+            RowsTest::getNoSuchByte);
         Check.finish();
     }
 
@@ -41,25 +44,21 @@ public final class RowsTest {
         Check.same("the 512th call", x.get(Check.PAST, 0), 5);
     }
 
-    private static void rowLimits() {
-        String[] words = {"PLAIN, at most 160", "PACKED, at most 200", "the PAST, at most 64"};
-        for (int row = 0; row < 3; row++) {
-            Check.sentence("Terms: " + words[row]);
-            Counted x = new Counted();
-            int r = row;
-            int limit = Check.LIMITS[r];
-            for (int i = 0; i < limit; i++) {
-                x.put(r, i, 1);
-            }
-            Check.holds("a full row", x, r, Check.rising(0, limit));
-            Check.refusesState("one byte more", x, () -> x.put(r, 1, 1));
-            Counted y = new Counted();
-            for (int i = 0; i < limit; i += 8) {
-                y.put(r, -1, 8);
-            }
-            Check.holds("filled by eights", y, r, Check.repeat(255, limit));
-            Check.refusesState("eight bytes more", y, () -> y.put(r, 1, 8));
+    private static void rowLimit(int row, String words) {
+        Check.sentence("Terms: " + words);
+        int limit = Check.LIMITS[row];
+        Counted x = new Counted();
+        for (int i = 0; i < limit; i++) {
+            x.put(row, i, 1);
         }
+        Check.holds("a full row", x, row, Check.rising(0, limit));
+        Check.refusesState("one byte more", x, () -> x.put(row, 1, 1));
+        Counted y = new Counted();
+        for (int i = 0; i < limit; i += 8) {
+            y.put(row, -1, 8);
+        }
+        Check.holds("filled by eights", y, row, Check.repeat(255, limit));
+        Check.refusesState("eight bytes more", y, () -> y.put(row, 1, 8));
     }
 
     private static void lowestFirst() {

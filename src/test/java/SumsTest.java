@@ -7,18 +7,19 @@ public final class SumsTest {
     private static final int[] SEEDS = {0, 1, -1, Integer.MIN_VALUE, Integer.MAX_VALUE, P1};
 
     public static void main(String[] args) {
-        crcOfNothing();
-        crcOfBytes();
-        crcBit();
-        crcOfEverySize();
-        crcNoSuchRow();
-        hashOfFewerThan16();
-        hashOf16OrMore();
-        hashOfTheRest();
-        hashWraps();
-        hashOfEverySize();
-        hashNoSuchRow();
-        sumsChangeNothing();
+        Check.run(
+            SumsTest::crcOfNothing,
+            SumsTest::crcOfBytes,
+            SumsTest::crcBit,
+            SumsTest::crcOfEverySize,
+            SumsTest::crcNoSuchRow,
+            SumsTest::hashOfFewerThan16,
+            SumsTest::hashOf16OrMore,
+            SumsTest::hashOfTheRest,
+            SumsTest::hashWraps,
+            SumsTest::hashOfEverySize,
+            SumsTest::hashNoSuchRow,
+            SumsTest::sumsChangeNothing);
         Check.finish();
     }
 

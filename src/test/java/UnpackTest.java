@@ -5,44 +5,45 @@ public final class UnpackTest {
     private static final int[] BEFORE = {77, 78, 79};
 
     public static void main(String[] args) {
-        wrongFormat();
-        howManyBytes();
-        minusOneMinusThePlace();
-        nothingChanges();
-        readsAfterRefusals();
-        theRowsSize();
-        historyOfAReader();
-        literalSum0();
-        copySum0();
-        oneByOne0();
-        rowEndsHere0();
-        endsWithLiterals0();
-        lowestFirst0();
-        noT0();
-        noByteOfL0();
-        tooManyLiterals0();
-        noLiteral0();
-        noByteOfTheDistance0();
-        wrongDistance0();
-        noByteOfM0();
-        tooManyCopied0();
-        firstOfThese0();
-        sevenBits1();
-        literals1();
-        shortCopies1();
-        longCopies1();
-        noFirstByte1();
-        noSecondByte1();
-        secondByteAbove127();
-        sizeAbove160();
-        wrongKind1();
-        literalAbove60();
-        noByteBehindT1();
-        wrongDistance1();
-        moreThanTheSize1();
-        noLiteral1();
-        fewerThanTheSize1();
-        firstOfThese1();
+        Check.run(
+            UnpackTest::wrongFormat,
+            UnpackTest::howManyBytes,
+            UnpackTest::minusOneMinusThePlace,
+            UnpackTest::nothingChanges,
+            UnpackTest::readsAfterRefusals,
+            UnpackTest::theRowsSize,
+            UnpackTest::historyOfAReader,
+            UnpackTest::literalSum0,
+            UnpackTest::copySum0,
+            UnpackTest::oneByOne0,
+            UnpackTest::rowEndsHere0,
+            UnpackTest::endsWithLiterals0,
+            UnpackTest::lowestFirst0,
+            UnpackTest::noT0,
+            UnpackTest::noByteOfL0,
+            UnpackTest::tooManyLiterals0,
+            UnpackTest::noLiteral0,
+            UnpackTest::noByteOfTheDistance0,
+            UnpackTest::wrongDistance0,
+            UnpackTest::noByteOfM0,
+            UnpackTest::tooManyCopied0,
+            UnpackTest::firstOfThese0,
+            UnpackTest::sevenBits1,
+            UnpackTest::literals1,
+            UnpackTest::shortCopies1,
+            UnpackTest::longCopies1,
+            UnpackTest::noFirstByte1,
+            UnpackTest::noSecondByte1,
+            UnpackTest::secondByteAbove127,
+            UnpackTest::sizeAbove160,
+            UnpackTest::wrongKind1,
+            UnpackTest::literalAbove60,
+            UnpackTest::noByteBehindT1,
+            UnpackTest::wrongDistance1,
+            UnpackTest::moreThanTheSize1,
+            UnpackTest::noLiteral1,
+            UnpackTest::fewerThanTheSize1,
+            UnpackTest::firstOfThese1);
         Check.finish();
     }
 
@@ -397,6 +398,7 @@ public final class UnpackTest {
         Check.sentence("Terms, TO UNPACK 1: no second one, if the first is above 127");
         malformed("128", 1, NO_PAST, 1, 128);
         malformed("255", 1, NO_PAST, 1, 255);
+        reads("128 and a second", 1, NO_PAST, Check.bytes(128, 0));
         // 127 needs no second byte: what is there behind it is an element.
         malformed("127, then kind 3", 1, NO_PAST, 1, 127, 3);
         reads("127, then elements", 1, NO_PAST, Check.bytes(127, 0, 7, 254, 1, 0, 246, 1, 0), Check.repeat(7, 127));
@@ -448,6 +450,7 @@ public final class UnpackTest {
     private static void noByteBehindT1() {
         Check.sentence("Terms, TO UNPACK 1: a byte behind T that is not there");
         malformed("the one that says n", 1, NO_PAST, 2, 5, 240);
+        malformed("the one that says n, whatever it says too many", 1, NO_PAST, 2, 0, 240);
         malformed("a short copy's", 1, NO_PAST, 4, 5, 0, 9, 1);
         malformed("a long copy's first", 1, NO_PAST, 4, 5, 0, 9, 14);
         malformed("a long copy's second", 1, NO_PAST, 5, 5, 0, 9, 14, 1);
