@@ -7,9 +7,13 @@ import java.util.TreeSet;
 
 /** The public face, and the rules of the language that can be seen from outside of the methods. */
 public final class FaceTest {
+    private static final String ARGUMENT = " throws IllegalArgumentException";
+    private static final String BOTH = ARGUMENT + ", IllegalStateException";
     private static final Set<String> FACE = Set.of(
-        "void put(int, long, int)", "int empty(int)", "int pack(int)", "int unpack(int)", "int size(int)",
-        "int get(int, int)", "int found(int)", "int crc(int)", "int hash(int, int)");
+        "void put(int, long, int)" + BOTH, "int empty(int)" + ARGUMENT, "int pack(int)" + ARGUMENT,
+        "int unpack(int)" + ARGUMENT, "int size(int)" + ARGUMENT, "int get(int, int)" + BOTH,
+        "int found(int)" + ARGUMENT, "int crc(int)" + ARGUMENT, "int hash(int, int)" + ARGUMENT);
+    private static final int MOST_PARAMETERS = 7;
 
     public static void main(String[] args) {
         Class<?> face = PressSuite.class;
@@ -19,10 +23,12 @@ public final class FaceTest {
             && constructors[0].getParameterCount() == 0 && Modifier.isPublic(constructors[0].getModifiers()));
         methods(face);
         fields(face);
+        parameters(face);
         for (Class<?> inside : face.getDeclaredClasses()) {
             int m = inside.getModifiers();
             Check.isTrue(inside + " is static and not public", Modifier.isStatic(m) && !Modifier.isPublic(m));
             fields(inside);
+            parameters(inside);
         }
         Check.isTrue("some twelve classes", face.getDeclaredClasses().length <= 12);
         Check.finish();
@@ -53,12 +59,22 @@ public final class FaceTest {
         }
     }
 
+    private static void parameters(Class<?> owner) {
+        for (Method method : owner.getDeclaredMethods()) {
+            Check.isTrue(method + " has few parameters", method.getParameterCount() <= MOST_PARAMETERS);
+        }
+    }
+
     private static String signature(Method method) {
         StringBuilder out = new StringBuilder();
         out.append(method.getReturnType().getName()).append(' ').append(method.getName()).append('(');
         for (Class<?> type : method.getParameterTypes()) {
             out.append(out.charAt(out.length() - 1) == '(' ? "" : ", ").append(type.getName());
         }
-        return out.append(')').toString();
+        out.append(')');
+        for (Class<?> type : method.getExceptionTypes()) {
+            out.append(out.indexOf(" throws ") < 0 ? " throws " : ", ").append(type.getSimpleName());
+        }
+        return out.toString();
     }
 }
